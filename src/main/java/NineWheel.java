@@ -21,7 +21,7 @@ public final class NineWheel {
     /** The order in which like TURNS are preferred. */
     private static final int[] TURN_ORDER = {0, -1, 1};
     private static final int[] ROWS_ON = {-1, -1, 0, 1, 1, 1, 0, -1};
-    private static final int[] PLACES_ON = {0, 1, 1, 1, 0, -1, -1, -1};
+    private static final int[] COLUMNS_ON = {0, 1, 1, 1, 0, -1, -1, -1};
 
     private final Text text = new Text();
     private final Sea sea = new Sea();
@@ -36,6 +36,8 @@ public final class NineWheel {
     private final Counting counting = new Counting(sea, crew, spare);
     private final Journey journey = new Journey(sea, crew, counting, held);
     private final Courses courses = new Courses(sea, counting);
+    /** The GAIN of each SORT by itself. */
+    private final int[] alone = new int[MOST_SORTS];
 
     public NineWheel() {
     }
@@ -141,8 +143,9 @@ public final class NineWheel {
         if (noRule(r) || noCell(c)) return UNKNOWN;
         if (noHeading(h) || noHour(hour)) return OUTSIDE;
         if (sea.isRock(c)) return NOT;
+        crew.ready();
         counting.begin(rules[r], 0);
-        return counting.turnAt(c * HEADINGS + h, hour);
+        return onlyTurn(counting.options(c * HEADINGS + h, hour));
     }
 
     // ---- runs
@@ -229,7 +232,6 @@ public final class NineWheel {
     public int pact(int r, int t) {
         if (noRule(r)) return UNKNOWN;
         if (outside(t, 1, LONGEST_PACT)) return OUTSIDE;
-        int[] alone = new int[MOST_SORTS];
         for (int s = 0; s < sea.sorts && s < alone.length; s++) alone[s] = gained(rules[r], 1 << s, t);
         for (int set = 1; set < 1 << sea.sorts; set++) {
             if (Integer.bitCount(set) < 2) continue;
@@ -245,6 +247,7 @@ public final class NineWheel {
     public int sides(int r, int c, int what) {
         if (noRule(r) || noCell(c)) return UNKNOWN;
         if (outside(what, 0, 2)) return OUTSIDE;
+        crew.ready();
         counting.begin(rules[r], 0);
         int many = 0;
         for (int place = 0; place < PLACES; place++) {
@@ -317,7 +320,7 @@ public final class NineWheel {
     }
 
     private static boolean noCell(int c) {
-        return outside(c, 0, CELLS - 1);
+        return c < 0 || c >= CELLS;
     }
 
     private static boolean noHeading(int h) {
@@ -365,12 +368,19 @@ public final class NineWheel {
         return (set >> k & 1) != 0;
     }
 
+    /** The TURN in a set of one. */
+    private static int onlyTurn(int options) {
+        return options == 1 ? -1 : options == 4 ? 1 : 0;
+    }
+
     private void sail(Rule rule, int hours, int q) {
+        crew.ready();
         counting.begin(rule, 0);
         journey.sail(rule, sea.start(), hours, q);
     }
 
     private int gained(Rule rule, int set, int hours) {
+        crew.ready();
         counting.begin(rule, set);
         int pressing = courses.greatest(set, sea.start(), hours);
         counting.begin(rule, 0);
@@ -638,7 +648,7 @@ public final class NineWheel {
         }
 
         boolean isRock(int cell) {
-            return !noCell(cell) && rocks[cell];
+            return cell >= 0 && cell < CELLS && rocks[cell];
         }
 
         int personsOf(int sort) {
@@ -696,23 +706,20 @@ public final class NineWheel {
             return Math.max(Math.abs((one >> 3) - (other >> 3)), Math.abs((one & 7) - (other & 7)));
         }
 
-        /** The next CELL by a HEADING, or the same one at the sea's edge. */
-        static int onward(int cell, int heading) {
-            int row = (cell >> 3) + ROWS_ON[heading & 7];
-            int place = (cell & 7) + PLACES_ON[heading & 7];
-            return row < 0 || row > 7 || place < 0 || place > 7 ? cell : row * 8 + place;
-        }
-
-        /** Where a TURN alone brings her. */
+        /** Where a TURN alone brings her; at the sea's edge her CELL stays. */
         static int turned(int place, int turn) {
-            int toward = headingOf(place + turn);
-            return onward(cellOf(place), toward) * HEADINGS + toward;
+            int cell = cellOf(place), heading = headingOf(place + turn);
+            int row = (cell >> 3) + ROWS_ON[heading & 7];
+            int column = (cell & 7) + COLUMNS_ON[heading & 7];
+            boolean within = row >= 0 && row < 8 && column >= 0 && column < 8;
+            return (within ? row * 8 + column : cell) * HEADINGS + heading;
         }
 
         int moved(int place, int turn, int hour) {
             int next = turned(place, turn);
             if (isRock(cellOf(next)) || driftEvery <= 0 || (hour + 1) % driftEvery != 0) return next;
-            return onward(cellOf(next), driftHeading) * HEADINGS + headingOf(next);
+            int drifted = turned(cellOf(next) * HEADINGS + driftHeading, 0);
+            return cellOf(drifted) * HEADINGS + headingOf(next);
         }
     }
 
@@ -819,6 +826,7 @@ public final class NineWheel {
         }
 
         int middle() {
+            if (persons <= 0) return 0;
             int ahead = (persons - 1) / 2;
             if (left > ahead) return -1;
             return persons - right > ahead ? 0 : 1;
@@ -888,30 +896,26 @@ public final class NineWheel {
 
         /** The TURN of 'unless' at a place; 0: it has none to say. */
         int dodge(Sea sea, int place) {
-            int cell = cellOf(place);
+            int next = place;
             for (int i = 0; i < look; i++) {
-                cell = Sea.onward(cell, headingOf(place));
-                if (sea.isRock(cell)) return side;
+                next = Sea.turned(next, 0);
+                if (sea.isRock(cellOf(next))) return side;
             }
             return 0;
         }
 
         int decided(Tally tally) {
-            int wanted = wanted(tally);
+            int wanted;
+            switch (kind) {
+                case MOST: wanted = tally.most(); break;
+                case MIDDLE: wanted = tally.middle(); break;
+                case MEAN: wanted = tally.mean(); break;
+                default: wanted = Integer.signum(tally.inTurn);
+            }
             if (wanted == 0) return 0;
             int with = wanted < 0 ? tally.left : tally.right;
             int against = wanted < 0 ? tally.rightSorts : tally.leftSorts;
             return with < need || (against & bars) != 0 ? 0 : wanted;
-        }
-
-        private int wanted(Tally tally) {
-            if (tally.persons <= 0) return 0;
-            switch (kind) {
-                case MOST: return tally.most();
-                case MIDDLE: return tally.middle();
-                case MEAN: return tally.mean();
-                default: return Integer.signum(tally.inTurn);
-            }
         }
     }
 
@@ -933,7 +937,7 @@ public final class NineWheel {
         }
 
         int press(int sort, int place) {
-            if (outside(place, 0, PLACES - 1) || outside(sort, 0, MOST_SORTS - 1)) return 0;
+            if (outside(place, 0, PLACES - 1) || !sea.isSort(sort)) return 0;
             return (packed[place] >> 3 * sort & 7) - 2;
         }
 
@@ -942,6 +946,7 @@ public final class NineWheel {
             Arrays.fill(packed, 0);
             int blind = held.blindSorts();
             for (int s = 0; s < sea.sorts; s++) {
+                if (held.wayOf(s) == AHEAD) lookAhead(s, held.strengthOf(s));
                 if (!holds(blind, s)) workOut(s);
             }
             for (int place = 0; place < PLACES; place++) {
@@ -955,7 +960,6 @@ public final class NineWheel {
 
         private void workOut(int sort) {
             int way = held.wayOf(sort), strength = held.strengthOf(sort);
-            if (way == AHEAD) lookAhead(sort, strength);
             for (int place = 0; place < PLACES; place++) {
                 int press = strength;
                 if (way == PLAIN) press = nearest(sort, place);
@@ -1016,7 +1020,7 @@ public final class NineWheel {
 
         private int foreseen(int sort, int place, int turn, int hours) {
             int next = Sea.turned(place, turn);
-            if (sea.isRock(cellOf(next)) || outside(next, 0, PLACES - 1)) return LOSS * hours;
+            if (sea.isRock(cellOf(next)) || next < 0 || next >= PLACES) return LOSS * hours;
             return sea.worthTo(sort, cellOf(next)) + later[next];
         }
     }
@@ -1044,7 +1048,6 @@ public final class NineWheel {
             this.free = free;
             any = false;
             Arrays.fill(masks, 0);
-            crew.ready();
         }
 
         /** From now on she turns as she likes. */
@@ -1061,12 +1064,6 @@ public final class NineWheel {
                 masks[place] |= mask << 3 * inTurn;
             }
             return mask;
-        }
-
-        /** The one TURN that is COUNTED when no SORT is free. */
-        int turnAt(int place, int hour) {
-            int mask = options(place, hour);
-            return mask == 1 ? -1 : mask == 4 ? 1 : 0;
         }
 
         private int workOut(int place, int inTurn) {
@@ -1156,7 +1153,7 @@ public final class NineWheel {
             states[0] = place << 4;
             for (int hour = 0; hour < most && hour < LAST_HOUR && !struck; hour++) {
                 int dodge = rule.dodge(sea, place);
-                int counted = q == NO_DRAWS ? counting.turnAt(place, hour) : drawn(rule, place, hour, q);
+                int counted = q == NO_DRAWS ? onlyTurn(counting.options(place, hour)) : drawn(rule, place, hour, q);
                 done[hour] = dodge != 0 ? delayed(0, dodge) : delayed(counted, 0);
                 place = sea.moved(place, done[hour], hour);
                 gone = hour + 1;
@@ -1250,31 +1247,27 @@ public final class NineWheel {
         int greatest(int set, int from, int hours) {
             if (outside(from, 0, PLACES - 1)) return 0;
             for (int c = 0; c < CELLS; c++) worth[c] = sea.worthToSet(c, set);
-            spread(from, hours);
+            Arrays.fill(reached, 0);
+            reached[from] = 1;
+            for (int hour = 0; hour < hours - 1; hour++) {
+                for (int place = 0; place < PLACES; place++) {
+                    if (holds(reached[place], hour)) reachFrom(place, hour, counting.options(place, hour));
+                }
+            }
             Arrays.fill(later, 0);
             Arrays.fill(chosen, 0);
             int loss = LOSS * sea.personsIn(set);
             for (int hour = hours - 1; hour >= 0; hour--) {
                 for (int place = 0; place < PLACES; place++) {
-                    if (holds(reached[place], hour)) now[place] = choose(place, hour, loss * (hours - hour));
+                    if (!holds(reached[place], hour)) continue;
+                    now[place] = choose(place, hour, loss * (hours - hour), counting.options(place, hour));
                 }
                 System.arraycopy(now, 0, later, 0, PLACES);
             }
             return later[from];
         }
 
-        private void spread(int from, int hours) {
-            Arrays.fill(reached, 0);
-            if (!outside(from, 0, PLACES - 1)) reached[from] = 1;
-            for (int hour = 0; hour < hours - 1; hour++) {
-                for (int place = 0; place < PLACES; place++) {
-                    if (holds(reached[place], hour)) reachFrom(place, hour);
-                }
-            }
-        }
-
-        private void reachFrom(int place, int hour) {
-            int open = counting.options(place, hour);
+        private void reachFrom(int place, int hour, int open) {
             for (int turn : TURN_ORDER) {
                 if (!holds(open, turn + 1)) continue;
                 int next = sea.moved(place, turn, hour);
@@ -1283,8 +1276,7 @@ public final class NineWheel {
             }
         }
 
-        private int choose(int place, int hour, int loss) {
-            int open = counting.options(place, hour);
+        private int choose(int place, int hour, int loss, int open) {
             int greatest = LEAST, best = 0;
             for (int turn : TURN_ORDER) {
                 if (!holds(open, turn + 1)) continue;
