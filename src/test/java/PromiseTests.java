@@ -392,6 +392,11 @@ public final class PromiseTests {
         x = at("ship 63 0;rocks 9;sort 1 likes 8 1,16 1,17 -9,24 9;");
         x.way(0, 2, 2);
         due(11, "AHEAD 2 of like rows the first", x.presses(0, 0, 4), 0);
+        x = at("rocks 34,35,37,44,45;sort 1 likes 36 -9;");
+        x.way(0, 2, 2);
+        due(11, "AHEAD, STRUCK later is better than at once", x.presses(0, 27, 4), -1);
+        x.way(0, 2, 1);
+        due(11, "AHEAD 1, no rock at all is better", x.presses(0, 27, 4), -1);
         x = at("ship 0 3;rocks 9,8;sort 1;");
         x.way(0, 2, 1);
         due(11, "AHEAD away from rocks", x.presses(0, 0, 2), 0);
@@ -454,6 +459,10 @@ public final class PromiseTests {
         due(12, "HOUR 1000", x.counted(0, 27, 0, 1000), OUTSIDE);
         due(12, "HOUR -1", x.counted(0, 27, 0, -1), OUTSIDE);
         due(12, "a rock", x.counted(0, 59, 0, 0), NOT);
+        x = at("rocks 56;", "most unless right 6", "most unless right 7");
+        due(12, "unless, six CELLS", x.counted(0, 0, 4, 0), 0);
+        due(12, "unless, seven CELLS", x.counted(1, 0, 4, 0), 1);
+        due(12, "unless by the edge", x.counted(1, 0, 6, 0), 0);
         x = at("rocks 16;", "most", "middle", "mean unless left 2", "turns");
         for (int r = 0; r < 4; r++) due(12, "without PERSONS", x.counted(r, 0, 4, 5), r == 2 ? -1 : 0);
     }
@@ -498,6 +507,11 @@ public final class PromiseTests {
         due(13, "PERIOD 392: between", x.run(0, 2), 392);
         x = at("ship 0 4;lag 2;", "most");
         due(13, "lag without PERSONS", x.run(0, 1), 8);
+        // The ring of eight begins when the first late TURN is done.
+        x = at("ship 27 4;lag 2;sort 1;", "most");
+        x.way(0, 4, 1);
+        due(13, "lag: ROUND", x.run(0, 1), 10);
+        due(13, "lag: between", x.run(0, 2), 8);
     }
 
     static void lagged(int lag, int p, String rule, int[] headings) {
@@ -627,6 +641,7 @@ public final class PromiseTests {
         due(21, "STRUCK and each HOUR more", x.value(0, 1, 5), -2 * 99 * 3);
         due(21, "ahead of it", x.value(0, 1, 2), 0);
         due(21, "to none", x.value(0, 0, 24), 0);
+        due(21, "24 HOURS", x.value(0, 1, 24), -2 * 99 * 22);
         due(21, "T 0", x.value(0, 1, 0), OUTSIDE);
         due(21, "T 25", x.value(0, 1, 25), OUTSIDE);
         due(21, "RULE 2", x.value(2, 1, 0), UNKNOWN);
@@ -658,6 +673,17 @@ public final class PromiseTests {
         x.way(0, 4, 0);
         x.way(1, 4, 1);
         due(22, "the mean, pressing hard", x.gain(0, 1, 1), 5);
+        // Free, the first one is seen by the BLIND, too; else these see the second alone.
+        x = at("ship 0 4;sort 2 likes 9 5;sort 1;sort 2;", "most");
+        x.way(0, 3, 0);
+        x.way(1, 4, 1);
+        x.way(2, 3, 0);
+        due(22, "those of the SET are not BLIND", x.gain(0, 1, 1), 10);
+        x = at("ship 0 4;sort 2 likes 9 5;sort 1;sort 2;", "most need 4");
+        x.way(0, 3, 0);
+        x.way(1, 4, 1);
+        x.way(2, 3, 0);
+        due(22, "and the BLIND follow them", x.gain(0, 1, 1), 10);
         x = at("ship 0 4;rocks 16;sort 1 likes 8 9;", "most unless left 2");
         due(22, "unless holds for all", x.gain(0, 1, 1), 0);
     }
@@ -812,6 +838,7 @@ public final class PromiseTests {
         x.rule();
         x.feed(2, 0);
         due(29, "keep(0)", x.keep(0), 1);
+        due(30, "BLIND ahead of goBack", x.presses(0, 9, 0), 0);
         due(30, "goBack(1)", x.goBack(1), 1);
         due(30, "the WAY", x.sort(0, 3), 4);
         due(30, "p of it", x.sort(0, 4), 2);
