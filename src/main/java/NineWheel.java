@@ -17,6 +17,7 @@ public final class NineWheel {
     private static final int PLAIN = 0, HARD = 1, AHEAD = 2, BLIND = 3, TOLD = 4;
     private static final int MOST = 0, MIDDLE = 1, MEAN = 2, TURNS = 3;
     private static final int NO_DRAWS = -1;
+    private static final int NO_SUCH_TURN = 9;
     private static final int ALL_TURNS = 7;
     /** The order in which like TURNS are preferred. */
     private static final int[] TURN_ORDER = {0, -1, 1};
@@ -209,8 +210,8 @@ public final class NineWheel {
 
     public int course(int set, int t, int j) {
         if (noSet(set)) return UNKNOWN;
-        if (outside(t, 1, LONGEST_COURSE) || j < 0) return OUTSIDE;
-        if (j >= t) return 9;
+        if (outside(t, 1, LONGEST_COURSE)) return OUTSIDE;
+        if (outside(j, 0, t - 1)) return NO_SUCH_TURN;
         counting.beginAny();
         courses.greatest(set, sea.start(), t);
         return courses.turnOf(sea.start(), j);
@@ -1292,11 +1293,11 @@ public final class NineWheel {
             return greatest;
         }
 
-        /** TURN j of the course that was worked out last; 9: she was STRUCK ahead of it. */
+        /** TURN j of the course that was worked out last, unless she was STRUCK ahead of it. */
         int turnOf(int from, int j) {
-            int place = from, turn = 9;
+            int place = from, turn = NO_SUCH_TURN;
             for (int hour = 0; hour <= j; hour++) {
-                if (sea.isRock(cellOf(place)) || outside(place, 0, PLACES - 1)) return 9;
+                if (sea.isRock(cellOf(place)) || outside(place, 0, PLACES - 1)) return NO_SUCH_TURN;
                 turn = (int) (chosen[place] >>> 2 * hour & 3) - 1;
                 place = sea.moved(place, turn, hour);
             }

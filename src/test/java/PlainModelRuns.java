@@ -643,7 +643,7 @@ public final class PlainModelRuns {
 
         int course(int set, int t, int j) {
             if (noSet(set)) return UNKNOWN;
-            if (off(t, 1, 24) || j < 0) return OUTSIDE;
+            if (off(t, 1, 24)) return OUTSIDE;
             Map<Integer, Integer> memo = new HashMap<>();
             int c = ship, h = heading;
             for (int hour = 0; hour < t && !rocks.contains(c); hour++) {

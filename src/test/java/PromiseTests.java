@@ -619,7 +619,16 @@ public final class PromiseTests {
         due(20, "of like ones 0", x.course(0, 24, 23), 0);
         due(20, "beyond T", x.course(1, 1, 1), 9);
         due(20, "far beyond T", x.course(1, 24, HIGH), 9);
-        due(20, "TURN -1", x.course(1, 1, -1), OUTSIDE);
+        due(20, "TURN -1", x.course(1, 1, -1), 9);
+        due(20, "TURN -1 of a long course", x.course(3, 24, -1), 9);
+        due(20, "TURN -24", x.course(1, 24, -24), 9);
+        due(20, "far below TURN 0", x.course(1, 24, LOW), 9);
+        due(20, "TURN -1, T 0", x.course(1, 0, -1), OUTSIDE);
+        due(20, "TURN -1, T 25", x.course(1, 25, -1), OUTSIDE);
+        due(20, "TURN -1, SET 4", x.course(4, 1, -1), UNKNOWN);
+        due(20, "TURN -1, SET -1", x.course(-1, 1, -1), UNKNOWN);
+        due(20, "far beyond T, T 25", x.course(1, 25, HIGH), OUTSIDE);
+        due(20, "TURN -1, an empty SET without PERSONS", new NineWheel().course(0, 1, -1), 9);
         due(20, "T 0", x.course(1, 0, 0), OUTSIDE);
         due(20, "T 25", x.course(1, 25, 0), OUTSIDE);
         due(20, "SET 4", x.course(4, 0, 0), UNKNOWN);
