@@ -1026,7 +1026,7 @@ public final class NineWheel {
         }
     }
 
-    /** Which TURNS can be COUNTED at a place by a RULE, while a SET of SORTS presses as it likes. */
+    /** Which TURNS can be COUNTED at a place by a RULE, while a SET of SORTS presses as it likes, all of it alike. */
     private static final class Counting {
         final Sea sea;
         final Crew crew;
@@ -1072,12 +1072,9 @@ public final class NineWheel {
             if (dodge != 0) return 1 << dodge + 1;
             int blind = crew.held.blindSorts() & ~free;
             for (int s = 0; s < MOST_SORTS; s++) row[s] = crew.press(s, place);
-            // But for the mean, pressing harder changes nothing: signs are enough.
-            int hardest = rule.kind == MEAN ? 2 : 1;
-            int ways = waysToPress(2 * hardest + 1);
-            int mask = 0;
-            for (int n = 0; n < ways && mask != ALL_TURNS; n++) {
-                pressFreely(n, hardest);
+            int mask = 0, hardest = hardestFree();
+            for (int press = -hardest; press <= hardest && mask != ALL_TURNS; press++) {
+                pressAlike(press);
                 if (blind != 0) follow(blind);
                 addUp(inTurn);
                 mask |= 1 << rule.decided(tally) + 1;
@@ -1085,21 +1082,16 @@ public final class NineWheel {
             return mask;
         }
 
-        private int waysToPress(int each) {
-            int ways = 1;
-            for (int s = 0; s < MOST_SORTS; s++) {
-                if (holds(free, s)) ways *= each;
-            }
-            return ways;
+        /** But for the mean, pressing harder changes nothing: signs are enough. */
+        private int hardestFree() {
+            if (free == 0) return 0;
+            return rule.kind == MEAN ? 2 : 1;
         }
 
-        private void pressFreely(int n, int hardest) {
-            int rest = n;
-            int each = hardest > 1 ? 5 : 3;
+        /** All that are free press the same: the SET is one in what it presses. */
+        private void pressAlike(int press) {
             for (int s = 0; s < MOST_SORTS; s++) {
-                if (!holds(free, s)) continue;
-                row[s] = rest % each - hardest;
-                rest /= each;
+                if (holds(free, s)) row[s] = press;
             }
         }
 

@@ -423,13 +423,13 @@ public final class PlainModelRuns {
             return best - 1;
         }
 
-        /** Presses of all SORTS, those of 'set' as 'free' tells. */
-        int[] pressesOf(int c, int h, int set, int[] free) {
+        /** Presses of all SORTS, those of 'set' all of them 'free'. */
+        int[] pressesOf(int c, int h, int set, int free) {
             int[] all = new int[sorts.size()];
             List<Integer> seeing = new ArrayList<>();
             for (int k = 0; k < all.length; k++) {
                 Sort s = sorts.get(k);
-                if ((set & 1 << k) != 0) all[k] = free[k];
+                if ((set & 1 << k) != 0) all[k] = free;
                 else if (s.way == 0) all[k] = plain(s, c, h);
                 else if (s.way == 1) all[k] = 2 * plain(s, c, h);
                 else if (s.way == 2) all[k] = ahead(s, c, h, s.strength);
@@ -447,7 +447,7 @@ public final class PlainModelRuns {
             if (noSort(s) || noCell(c)) return UNKNOWN;
             if (off(h, 0, 7)) return OUTSIDE;
             if (rocks.contains(c)) return NOT;
-            return pressesOf(c, h, 0, null)[s];
+            return pressesOf(c, h, 0, 0)[s];
         }
 
         int unless(PlainRule r, int c, int h) {
@@ -496,7 +496,7 @@ public final class PlainModelRuns {
 
         int countedAt(PlainRule r, int c, int h, int hour) {
             int told = unless(r, c, h);
-            return told != 0 ? told : tally(r, each(pressesOf(c, h, 0, null)), hour);
+            return told != 0 ? told : tally(r, each(pressesOf(c, h, 0, 0)), hour);
         }
 
         int counted(int r, int c, int h, int hour) {
@@ -534,7 +534,7 @@ public final class PlainModelRuns {
                 }
                 if (hour == hours) return way;
                 int told = unless(r, c, h);
-                int counted = q < 0 ? tally(r, each(pressesOf(c, h, 0, null)), hour) : drawn(r, c, h, hour, q);
+                int counted = q < 0 ? tally(r, each(pressesOf(c, h, 0, 0)), hour) : drawn(r, c, h, hour, q);
                 late.add(told != 0 ? 0 : counted);
                 int due = late.remove();
                 int turn = told != 0 ? told : due;
@@ -551,7 +551,7 @@ public final class PlainModelRuns {
         }
 
         int drawn(PlainRule r, int c, int h, int hour, int q) {
-            List<int[]> all = each(pressesOf(c, h, 0, null));
+            List<int[]> all = each(pressesOf(c, h, 0, 0));
             for (int[] p : all) if (draw(100) < q) p[1] = draw(3) - 1;
             return tally(r, all, hour);
         }
@@ -681,18 +681,8 @@ public final class PlainModelRuns {
                 open.add(told);
                 return open;
             }
-            int[] free = new int[sorts.size()];
-            Arrays.fill(free, -2);
-            for (;;) {
-                open.add(tally(r, each(pressesOf(c, h, set, free)), hour));
-                int k = 0;
-                while (k < free.length && ((set & 1 << k) == 0 || free[k] == 2)) {
-                    free[k] = -2;
-                    k++;
-                }
-                if (k == free.length) return open;
-                free[k]++;
-            }
+            for (int free = -2; free <= 2; free++) open.add(tally(r, each(pressesOf(c, h, set, free)), hour));
+            return open;
         }
 
         int gainOf(PlainRule r, int set, int t) {
@@ -955,7 +945,7 @@ public final class PlainModelRuns {
         int s = num(d, 0, Math.max(0, m.sorts.size() - 1), o), c = num(d, 0, 63, o), h = num(d, 0, 7, o);
         int r = num(d, 0, Math.max(0, m.rules.size() - 1), o), hour = num(d, 0, 999, o), turn = num(d, -1, 1, o);
         int set = num(d, 0, (1 << m.sorts.size()) - 1, o), t = num(d, 1, d.nextInt(3) == 0 ? 24 : 8, o);
-        int short_ = m.sorts.size() > 3 ? num(d, 1, 2, o) : num(d, 1, d.nextInt(5) == 0 ? 12 : 5, o);
+        int short_ = num(d, 1, d.nextInt(5) == 0 ? 12 : 5, o);
         int i = num(d, 0, 1, o), three = num(d, 0, 2, o), q = num(d, 0, 100, o);
         String args = " s=" + s + " c=" + c + " h=" + h + " r=" + r + " hour=" + hour + " turn=" + turn
                 + " set=" + set + " t=" + t + " i=" + i + " three=" + three + " q=" + q + " short=" + short_;
@@ -1004,12 +994,10 @@ public final class PlainModelRuns {
             }
             case 21: same(run, "value" + args, x.value(r, set, t), m.value(r, set, t)); break;
             case 22: case 23:
-                if (Integer.bitCount(set) < 4) {
-                    same(run, "gain" + args, x.gain(r, set, short_), m.gain(r, set, short_));
-                }
+                same(run, "gain" + args, x.gain(r, set, t), m.gain(r, set, t));
                 break;
             case 24:
-                if (m.sorts.size() < 4) same(run, "pact" + args, x.pact(r, short_), m.pact(r, short_));
+                same(run, "pact" + args, x.pact(r, short_), m.pact(r, short_));
                 break;
             case 25:
                 if (d.nextInt(12) == 0) same(run, "sides" + args, x.sides(r, c, three), m.sides(r, c, three));

@@ -695,6 +695,37 @@ public final class PromiseTests {
         due(22, "and the BLIND follow them", x.gain(0, 1, 1), 10);
         x = at("ship 0 4;rocks 16;sort 1 likes 8 9;", "most unless left 2");
         due(22, "unless holds for all", x.gain(0, 1, 1), 0);
+        asOne();
+    }
+
+    /** Straight on, toward 36, comes of one SORT's left and the other's right alone; a SET presses all of it alike. */
+    static NineWheel straightByBothSides() {
+        NineWheel x = at("ship 28 4;sort 1 likes 36 9;sort 1;sort 5;sort 4;", "most bar0");
+        x.way(2, 4, 1);
+        x.way(3, 4, -1);
+        return x;
+    }
+
+    static void asOne() {
+        NineWheel x = straightByBothSides();
+        due(22, "not one left, the other right", x.gain(0, 3, 1), 0);
+        due(22, "enough of the SET straight", x.gain(0, 5, 1), 9);
+        due(22, "one alone, the other PLAIN", x.gain(0, 1, 1), 0);
+        x.way(1, 4, 1);
+        due(22, "one alone, the other by its WAY to the right", x.gain(0, 1, 1), 9);
+        due(22, "both, though their WAYS are otherwise", x.gain(0, 3, 1), 0);
+        x.way(0, 4, -1);
+        due(22, "one alone has it already", x.gain(0, 1, 1), 0);
+        due(22, "alike is worse than each by its WAY", x.gain(0, 3, 1), -9);
+        due(22, "to those without likes it is all one", x.gain(0, 14, 1), 0);
+        x = at("ship 0 4;sort 1 likes 9 5;sort 1;sort 6;", "mean");
+        x.way(2, 4, 0);
+        due(22, "the mean, all of two pressing hard", x.gain(0, 3, 1), 5);
+        x = at("ship 27 4;sort 1 likes 36 9,44 7;sort 1;", "turns");
+        x.way(0, 4, 0);
+        x.way(1, 4, 0);
+        due(22, "alike in an HOUR, otherwise in the next", x.gain(0, 3, 2), 16);
+        due(22, "one alone in its turn", x.gain(0, 1, 2), 9);
     }
 
     static void promise23() {
@@ -712,6 +743,8 @@ public final class PromiseTests {
         x.way(1, 4, 0);
         due(23, "each gains alone what both gain", x.gain(0, 1, 1) + x.gain(0, 2, 1), x.gain(0, 3, 1));
         due(23, "no more together", x.pact(0, 1), NONE);
+        x = straightByBothSides();
+        due(23, "not the two that would have to press otherwise than one another", x.pact(0, 1), 5);
         due(23, "one SORT", at("sort 1 likes 9 5;", "most").pact(0, 12), NONE);
         due(23, "without SORTS", at("", "most").pact(0, 12), NONE);
     }
