@@ -771,6 +771,21 @@ public final class BoundaryTests {
         due("what stayed, read as a SEA", x.sea(), 0);
         due("its lag", x.told(4), 2);
         due("a fifth behind a SEA", ruleOf(x, "most"), FULL);
+        sentence("NOT: more than 80 bytes; FULL (THE TEXT stays, of both).");
+        for (int bytes : p(81, 82, 299, 300)) {
+            x = at("", "most");
+            due("a RULE of " + bytes + " bytes", ruleOf(x, "mean" + many(bytes - 4, " ")), NOT);
+            due("THE TEXT", x.count(2), bytes);
+            x.sea();
+            for (int r = 1; r < 4; r++) due("RULE", ruleOf(x, "mean"), r);
+            due("a fifth of " + bytes + " bytes", ruleOf(x, many(bytes, " ")), NOT);
+            due("THE TEXT of the fifth", x.count(2), bytes);
+            x.sea();
+            due("a fifth of 80 bytes", ruleOf(x, many(80, " ")), FULL);
+            due("THE TEXT of it", x.count(2), 80);
+            x.sea();
+            due("a fifth of none", x.rule(), FULL);
+        }
         sentence("N 0 .. 54, S 0 .. 5, K 1 .. 7.");
         for (int n : p(0, 1, 53, 54)) ruleSound("most need " + n);
         for (int n : p(55, 56, 99)) ruleFault("most need " + n, 2, 10);
@@ -881,6 +896,8 @@ public final class BoundaryTests {
             }
         }
         NineWheel x = at("");
+        for (int hour : p(-1, 1000)) due("HOUR " + hour, x.turns(27, 0, hour, 0, 0), OUTSIDE);
+        for (int hour : p(0, 999)) due("HOUR " + hour, x.turns(27, 0, hour, 0, 0), 19);
         due("0 to the left", x.turns(27, 0, 0, -1, 1), 7);
         due("7 to the right", x.turns(27, 7, 0, 1, 1), 0);
         due("no row's end goes on in the next", x.turns(7, 2, 0, 0, 0), 7);
@@ -1117,7 +1134,19 @@ public final class BoundaryTests {
         x.way(3, 4, 0);
         x.way(4, 4, 0);
         due("three of each", x.presses(1, 9, 0), 0);
+        sentence("(BLIND: with the others as they press.)");
+        for (int place = 0; place < 512; place++) {
+            int c = place / 8, h = place % 8;
+            if (place % 100 == 0) x = at(ROCKY + "sort 2 likes 63 9;sort 1 likes 0 9;sort 2 likes 36 9,35 -9 fears 1;sort 9;sort 1 likes 7 9;");
+            if (place % 100 == 0) for (int s = 1; s < 4; s++) x.way(s, s, s == 2 ? 3 : 0);
+            int[] count = new int[3], persons = {2, 1, 2, 0, 1};
+            if (rocky(c)) due("BLIND on a rock", x.presses(3, c, h), NOT);
+            if (rocky(c)) continue;
+            for (int s = 0; s < 5; s++) count[Integer.signum(x.presses(s, c, h)) + 1] += persons[s];
+            due("BLIND at " + c + " by " + h, x.presses(3, c, h), most(count[0], count[1], count[2]));
+        }
         sentence("4 TOLD p (-2 .. 2): that.");
+        x = at(crew(1, 2, 3, 1, 2, 3));
         for (int s = 0; s < 6; s++) {
             for (int press = -2; press <= 2; press++) {
                 x.way(s, 4, press);
@@ -1460,13 +1489,16 @@ public final class BoundaryTests {
             for (int what = 0; what < 3; what++) due("ship " + i + ", run(0, " + what + ")", x.run(0, what), due[i][what]);
         }
         due("struck by the first TURN", fleet()[18].made().run(0, 0), 1);
-        sentence("the first HOUR at which she is there (0: at once; also as she is STRUCK there)");
+        sentence("COMES: the HOUR (to 400); NONE.");
         Ship[] fleet = fleet();
-        due("at once", fleet[2].made().comes(0, 56), 0);
         due("in HOUR 400", fleet[2].made().comes(0, 57), 400);
-        due("STRUCK in HOUR 400", fleet[0].made().comes(0, 57), 400);
         due("not to 400", fleet[1].made().comes(0, 57), NONE);
         due("never", fleet[3].made().comes(0, 48), NONE);
+        sentence("the first HOUR at which she is there (0: at once; also as she is STRUCK there)");
+        due("at once", fleet[2].made().comes(0, 56), 0);
+        due("STRUCK in HOUR 400", fleet[0].made().comes(0, 57), 400);
+        due("STRUCK in HOUR 1", fleet[18].made().comes(0, 8), 1);
+        due("behind the strike", fleet[18].made().comes(0, 16), NONE);
         sentence("At HOUR t (0 .. 400) of a RUN: what = 0 the CELL, 1 HEADING; NONE: it was STRUCK ahead of that.");
         due("CELL at 400", fleet[1].made().at(0, 400, 0), 58);
         due("the rock at 400", fleet[0].made().at(0, 400, 0), 57);
