@@ -1676,6 +1676,7 @@ public final class BoundaryTests {
                 }
             }
         }
+        struckLater();
         sentence("T HOURS (1 .. 24)");
         NineWheel x = at("sort 1 likes 8 9,0 1;sort 2 likes 63 1;", "most");
         for (int t = 1; t <= 24; t++) {
@@ -1697,6 +1698,25 @@ public final class BoundaryTests {
         due("no lag", x.best(1, 0, 4, 1), 5);
         due("a TURN that is lagged no HOUR", x.course(1, 1, 0), -1);
         due("a RUN has it", x.value(0, 1, 1), 0);
+    }
+
+    /** Walled in by rocks, so that however she turns she is STRUCK in her second HOUR, or in her third. */
+    static void struckLater() {
+        String likes = "sort 2 likes 28 9,29 5;sort 1;";
+        NineWheel second = pressing(p(1, 1), "ship 27 2;rocks 20,36,21,29,37;" + likes.replace(",29 5", ""), "most");
+        NineWheel third = pressing(p(1, 1), "ship 27 2;rocks 20,36,21,37,22,30,38;" + likes, "most");
+        for (int t = 1; t <= 24; t++) {
+            int one = 2 * 9, two = one + (t > 1 ? 2 * 5 : 0);
+            due("STRUCK in the second of " + t, second.best(1, 27, 2, t), one - 198 * (t - 1));
+            due("STRUCK in the third of " + t, third.best(1, 27, 2, t), two - 198 * Math.max(0, t - 2));
+            due("both SORTS STRUCK in the second of " + t, second.best(3, 27, 2, t), one - 297 * (t - 1));
+            due("STRUCK in the second of " + t + ", less STRUCK at once", second.gain(0, 1, t), one + 198);
+            due("STRUCK in the third of " + t + ", less STRUCK at once", third.gain(0, 3, t), two + 297 * Math.min(t, 2));
+        }
+        for (int j = 0; j < 5; j++) {
+            due("TURN " + j + " of one STRUCK in the second HOUR", second.course(1, 24, j), j < 2 ? 0 : 9);
+            due("TURN " + j + " of one STRUCK in the third HOUR", third.course(1, 24, j), j < 3 ? 0 : 9);
+        }
     }
 
     static void courses() {
